@@ -409,7 +409,6 @@ public final class WornLines {
     // By hand no more STEPS than BY_HAND can be made, mended or not.
     private int stepsIfMended(int line) {
         walker.copy(hand);
-        walker.way = HARD;
         walker.state = GOES_ON;
         walker.worn[line] = 0;
         return walker.go(Math.min(ASKED, BY_HAND - hand.steps));

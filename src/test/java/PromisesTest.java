@@ -109,6 +109,12 @@ public final class PromisesTest {
         due("3: laid as told", x.line(3, 1), 1);
         due("3: one twin", x.line(3, 2), 1);
         due("3: cell", Check.cell(x, 0), Check.THROWS);
+        x.begin(1);
+        x.run(6);
+        due("3: written", x.state(3), 1);
+        due("3: anew", Check.programme(x, SUM), 0);
+        due("3: nothing written", x.state(3), 0);
+        due("3: nothing written", Check.wrote(x, 0), Check.THROWS);
         due("3: marks stay", x.mark(1, true), true);
         due("3: of the mark", x.line(3, 2), 2);
         due("3: no line", Check.programme(x, "cell a 3;"), 0);
@@ -116,6 +122,36 @@ public final class PromisesTest {
         due("3: no line", x.begin(0), false);
         due("3: a fault", Check.programme(x, "cell a b;"), 1 + 16 * 7);
         due("3: all stays", x.count(1), 1);
+        manyProgrammes(x);
+    }
+
+    /** What is worked out for one programme is not taken for another. */
+    private static void manyProgrammes(WornLines x) {
+        String once = X + "line x write 1;line x halt;line x halt;";
+        String endless = X + "line x go 0;";
+        String nines = X + "line x write 1+2+3+4+5+6+7+8+9+1+2+3+4+5+6+7+8+9+1+2+3+4+5+6+7+8+9;";
+        for (int i = 0; i < 20; i++) {
+            Check.programme(x, nines);
+            x.begin(0);
+            x.run(1);
+            due("3: 27 numbers", Check.wrote(x, 0), 135);
+            Check.programme(x, SUM);
+            x.mark(0, false);
+            due("18: of the sum", x.most(0, 0), 5);
+            due("19: of the sum", x.never(), 0);
+            due("23: of the sum", x.lasting(14), 29);
+            Check.programme(x, endless);
+            due("19: endless", x.never(), NONE);
+            Check.programme(x, once);
+            due("18: once", x.most(0, 0), 1);
+            due("18: once", x.most(0, 1), 0);
+            due("18: once", x.most(0, 2), 1);
+            due("18: never", x.most(2, 1), 0);
+            due("23: once", x.lasting(14), 3);
+            x.mark(0, true);
+            due("18: of the sum again", x.most(0, 1), 4);
+            due("24: of the sum again", x.lasts(14, 2, 1), 4);
+        }
     }
 
     private static void stuff() {
@@ -417,6 +453,8 @@ public final class PromisesTest {
         due("18: endless", Check.told(XC + "input c 0 1;line x if c go 0;").most(0, 0), NONE);
         due("18: 1000 steps", Check.told("stuff x bears 1 costs 1;cell c 0;line x set c c+1;"
                 + "line x if c<500 go 0;").most(0, 2), 500);
+        due("18: 1001 steps", Check.told("stuff x bears 1 costs 1;cell c 0;line x set c c+1;"
+                + "line x if c<500 go 0;line x halt;").most(0, 2), NONE);
         due("18: more steps", Check.told("stuff x bears 1 costs 1;cell c 0;line x set c c+1;"
                 + "line x if c<501 go 0;").most(0, 2), NONE);
     }
@@ -453,6 +491,11 @@ public final class PromisesTest {
                 + "line b if c go 2;line b go 1;line a go 2;");
         due("20: besides an endless one", z.first(0), 1);
         due("20: besides an endless one", z.first(1), 3);
+        WornLines w = Check.told("stuff a bears 2 costs 1;stuff b bears 99 costs 1;cell c 0;input c 0 2;"
+                + "line b if c=0 go 2;line b if c=1 go 4;line a go 2;line b halt;line a write 1;line a go 4;");
+        due("20: input 0", w.first(0), 0);
+        due("20: input 0", w.first(1), 3);
+        due("20: input 0", w.first(2), 2);
     }
 
     private static void apart() {
@@ -479,6 +522,8 @@ public final class PromisesTest {
         WornLines x = Check.told(SUM);
         due("22", x.rounds(0), 1);
         due("22", x.rounds(2), 0);
+        due("22: behind a soft run", x.never(), 0);
+        due("22: behind a soft run", x.rounds(0), 1);
         due("22: none such", x.rounds(5), NONE);
         due("22: none such", x.rounds(-1), NONE);
         due("22: no line", new WornLines().rounds(0), NONE);
@@ -638,9 +683,10 @@ public final class PromisesTest {
         x.begin(1);
         x.run(6);
         due("27: laid", x.mark(3, false), true);
-        Check.programme(x, "cell q 5;" + X + "line x set q 9;");
+        Check.programme(x, "cell q 5;" + X + "line x write q;line x set q 9;");
         x.begin(0);
-        x.run(1);
+        x.run(2);
+        due("27: wrote in between", Check.wrote(x, 0), 5);
         Check.feed(x, "cell");
         due("27: back", x.mark(3, true), true);
         due("27: the programme", x.count(3), 5);
