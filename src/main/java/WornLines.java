@@ -387,6 +387,8 @@ public final class WornLines {
         walker.way = way;
         walker.start(input);
         walker.go(ASKED);
+        // To FALL takes no STEP, so a HOLE right behind the last STEP is within them.
+        walker.fallIfHole();
     }
 
     private int firstToFall() {
@@ -997,11 +999,8 @@ public final class WornLines {
         }
 
         boolean step() {
+            fallIfHole();
             if (state != GOES_ON || !within(next, programme.lines)) {
-                return false;
-            }
-            if (way == HARD && worn[next] >= bearing(next)) {
-                state = FALLEN;
                 return false;
             }
             if (way != PLAIN) {
@@ -1013,6 +1012,12 @@ public final class WornLines {
                 state = ENDED;
             }
             return true;
+        }
+
+        void fallIfHole() {
+            if (state == GOES_ON && way == HARD && within(next, programme.lines) && worn[next] >= bearing(next)) {
+                state = FALLEN;
+            }
         }
 
         private int work(int line) {

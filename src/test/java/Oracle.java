@@ -418,6 +418,9 @@ final class Oracle {
         Arrays.fill(run.worn, 0);
         run.begin(input);
         run.go(way, 1000);
+        if (way == Way.HARD && run.state == 1 && run.worn[run.next] >= run.bears(run.next)) {
+            run.state = 3;
+        }
         return run;
     }
 

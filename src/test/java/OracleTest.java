@@ -83,7 +83,28 @@ public final class OracleTest {
         return s.toString();
     }
 
+    /** A loop of which some line gives behind some 1,000 steps. */
+    private String treadmill() {
+        int ahead = any(3);
+        int round = 1 + any(4);
+        stuffs = 2;
+        cells = 1;
+        lines = ahead + round;
+        StringBuilder s = new StringBuilder("stuff p bears 9999 costs 1;stuff q bears ")
+                .append((1000 - ahead + any(7) - 3) / round).append(" costs 2;cell a 0;input a 0 ").append(any(5)).append(";");
+        for (int i = 0; i < ahead; i++) {
+            s.append("line p if a<").append(any(4)).append(" go ").append(ahead).append(";");
+        }
+        for (int i = 0; i < round; i++) {
+            s.append("line ").append(oneIn(2) ? "q" : "p").append(i == round - 1 ? " go " + ahead : " write a").append(";");
+        }
+        return s.toString();
+    }
+
     private String programme() {
+        if (oneIn(8)) {
+            return treadmill();
+        }
         StringBuilder s = new StringBuilder();
         stuffs = 1 + any(oneIn(20) ? 5 : 4);
         cells = any(oneIn(20) ? 8 : 4);

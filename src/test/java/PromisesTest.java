@@ -31,6 +31,7 @@ public final class PromisesTest {
         fresh();
         steps();
         falls();
+        fallsBehindThousand();
         most();
         never();
         first();
@@ -408,9 +409,6 @@ public final class PromisesTest {
         String thousand = "cell c 0;line x set c c+1;line x if c<499 go 0;line x write 1;line x write 2;";
         due("16: 1000 steps", Check.told(X + thousand).steps(0), 1000);
         due("16: 1001 steps", Check.told(X + thousand + "line x halt;").steps(0), NONE);
-        due("16: falls behind 999", Check.told("stuff x bears 999 costs 1;line x go 0;").steps(0), 999);
-        due("16: the hole does not show in 1000", Check.told("stuff x bears 1000 costs 1;line x go 0;").steps(0),
-                NONE);
     }
 
     private static void falls() {
@@ -423,7 +421,100 @@ public final class PromisesTest {
         due("17: as it is laid", x.falls(3), 0);
         due("17: endless", Check.told(X + "line x go 0;").falls(0), NONE);
         due("17: no line", Check.told("cell a 1;").falls(0), NONE);
-        due("17: at 1000", Check.told("stuff x bears 1000 costs 1;line x go 0;").falls(0), NONE);
+    }
+
+    /** To fall takes no step: behind 1,000 steps a run still falls within 1,000, behind more it is endless. */
+    private static void fallsBehindThousand() {
+        for (int bears : new int[] {997, 998, 999, 1000, 1001, 1002, 9999}) {
+            boolean within = bears <= 1000;
+            WornLines x = Check.told("stuff x bears " + bears + " costs 1;line x go 0;");
+            String behind = "falls behind " + bears;
+            due("16: " + behind, x.steps(0), within ? bears : NONE);
+            due("17: " + behind, x.falls(0), within ? 0 : NONE);
+            due("20: " + behind, x.first(0), within ? 0 : NONE);
+            due("20: " + behind, x.first(1), within ? bears : NONE);
+            due("20: " + behind, x.first(2), within ? 0 : NONE);
+            due("21: " + behind, x.apart(), NONE);
+            due("22: " + behind, x.rounds(0), 0);
+            due("18: soft it is endless, " + behind, x.most(0, 0), NONE);
+        }
+        fallsAtAnother();
+        fallsByOneOfThree();
+        fallsByHandWhenWorked();
+    }
+
+    private static void fallsAtAnother() {
+        WornLines x = Check.told("stuff x bears 333 costs 1;stuff y bears 9999 costs 1;"
+                + "line y write 1;line y write 2;line x go 3;line y go 2;");
+        x.lay(2, 0, 1);
+        due("16: 2 + 2 * 333", x.steps(0), 668);
+        x.lay(2, 0, 2);
+        due("16: 2 + 2 * 666", x.steps(0), NONE);
+        WornLines y = Check.told("stuff x bears 499 costs 1;stuff y bears 9999 costs 1;"
+                + "line y write 1;line y write 2;line x go 3;line y go 2;");
+        due("16: 2 + 2 * 499", y.steps(0), 1000);
+        due("17: 2 + 2 * 499", y.falls(0), 2);
+        due("20: 2 + 2 * 499", y.first(1), 1000);
+        due("20: 2 + 2 * 499", y.first(2), 2);
+        y.lay(3, 0, 1);
+        y.lay(2, 1, 1);
+        due("16: 3 + 2 * 499", y.steps(0), NONE);
+        due("17: 3 + 2 * 499", y.falls(0), NONE);
+        due("20: 3 + 2 * 499", y.first(0), NONE);
+        // What is written ahead of the fall is all the same, so that no input is apart.
+        due("21: behind 1000", y.apart(), NONE);
+        due("16: it ends by step 1000 ahead of a hole", Check.told("stuff x bears 499 costs 1;stuff y bears 9999 costs 1;"
+                + "cell c 0;line x set c c+1;line y if c<499 go 0;line y if c=499 go 4;line x halt;line y halt;").steps(0),
+                1000);
+    }
+
+    /** By input 2 the loop is come to behind 1 step, by 1 behind 2, by 0 behind 3. */
+    private static void fallsByOneOfThree() {
+        for (int bears = 995; bears <= 1001; bears++) {
+            WornLines x = Check.told("stuff x bears " + bears + " costs 1;stuff y bears 9 costs 1;cell c 0;"
+                    + "input c 0 2;line y if c=2 go 3;line y if c=1 go 3;line y go 3;line x go 3;");
+            for (int input = 0; input < 3; input++) {
+                int behind = bears + 3 - input;
+                due("16: behind " + behind, x.steps(input), behind <= 1000 ? behind : NONE);
+                due("17: behind " + behind, x.falls(input), behind <= 1000 ? 3 : NONE);
+            }
+            boolean falls = bears + 1 <= 1000;
+            due("20: behind " + (bears + 1), x.first(0), falls ? 2 : NONE);
+            due("20: behind " + (bears + 1), x.first(1), falls ? bears + 1 : NONE);
+            due("20: behind " + (bears + 1), x.first(2), falls ? 3 : NONE);
+        }
+        WornLines y = Check.told("stuff x bears 1000 costs 1;cell c 0;input c 5 9;line x go 0;");
+        due("20: of equal ones behind 1000 the first", y.first(0), 0);
+        due("20: of equal ones behind 1000 the first", y.first(1), 1000);
+    }
+
+    private static void fallsByHandWhenWorked() {
+        WornLines x = Check.told("stuff x bears 1000 costs 1;line x go 0;");
+        x.begin(0);
+        due("11: by hand", x.run(1000), 1000);
+        due("12: the hole does not show yet", x.state(0), 1);
+        due("11: no step is to be worked", x.run(0), 0);
+        due("12: the hole does not show yet", x.state(0), 1);
+        due("16: asked behind the steps", x.steps(0), 1000);
+        due("12: the machine stays", x.state(0), 1);
+        due("25: mended", x.better(1), 1000);
+        due("11: the hole", x.run(1), 0);
+        due("12: the hole shows", x.state(0), 3);
+        due("12: no step", x.state(2), 1000);
+        due("12: at which line", x.state(1), 0);
+        // Step 999,999 is the first that goes to line 2 anew; laid with y it is a hole behind the step to come.
+        WornLines y = Check.told(X + "stuff y bears 1 costs 1;cell k 0;line x mend k by 9999;line x set k k+1;"
+                + "line x go 2*(k=333*1001);");
+        y.begin(0);
+        due("11: by hand", y.run(999999), 999999);
+        due("12: line 2", y.state(1), 2);
+        y.lay(2, 1, 1);
+        due("11: the last", y.run(2), 1);
+        due("12: at a hole it is spent", y.state(0), 4);
+        due("12: at a hole", y.state(1), 2);
+        due("5: as worn as it bears", y.line(2, 4), 1);
+        due("11: no more", y.run(1), 0);
+        due("12: it stays spent", y.state(0), 4);
     }
 
     private static void most() {
