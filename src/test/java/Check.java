@@ -8,17 +8,38 @@ final class Check {
 
     private int wrong = 0;
     private int asked = 0;
+    private String sentence = "";
+
+    /** The words of the document that the answers asked for from here on come from. */
+    void sentence(String words) {
+        sentence = words;
+    }
 
     void due(String call, long got, long want) {
         asked++;
         if (got != want) {
             wrong++;
             System.out.println(call + " answered " + told(got) + ", due is " + told(want));
+            if (!sentence.isEmpty()) {
+                System.out.println("    by: " + sentence);
+            }
         }
     }
 
     void due(String call, boolean got, boolean want) {
         due(call, got ? 1 : 0, want ? 1 : 0);
+    }
+
+    /** The text has a fault of this kind; an @ stands ahead of the wrong token and is taken out before feeding. */
+    void fault(int kind, String marked) {
+        int place = marked.indexOf('@');
+        String text = marked.substring(0, place) + marked.substring(place + 1);
+        due(marked, programme(new WornLines(), text), kind + 16L * place);
+    }
+
+    /** The text is a programme. */
+    void fine(String text) {
+        due(text, programme(new WornLines(), text), 0);
     }
 
     /** Ends the test: with exit code 1 if an answer was wrong. */
@@ -69,6 +90,26 @@ final class Check {
     static int programme(WornLines x, String text) {
         feed(x, text);
         return x.programme();
+    }
+
+    /** The text, then so many times the other. */
+    static String with(String text, int times, String other) {
+        StringBuilder all = new StringBuilder(text);
+        for (int i = 0; i < times; i++) {
+            all.append(other);
+        }
+        return all.toString();
+    }
+
+    /** A number as an E tells it, where all numbers have 4 digits at most. */
+    static String spelled(int number) {
+        if (number == Integer.MIN_VALUE) {
+            return "(2048*1024*1024)";
+        }
+        if (number == Integer.MAX_VALUE) {
+            return "(2048*1024*1024-1)";
+        }
+        return number < 0 ? "(0-" + -number + ")" : "" + number;
     }
 
     /** A new object with this PROGRAMME. */

@@ -21,15 +21,12 @@ public final class FaultsTest {
         CHECK.end();
     }
 
-    /** The @ stands before the wrong token and is taken out ahead of feeding. */
     private static void fault(int kind, String marked) {
-        int place = marked.indexOf('@');
-        String text = marked.substring(0, place) + marked.substring(place + 1);
-        CHECK.due(marked, Check.programme(new WornLines(), text), kind + 16L * place);
+        CHECK.fault(kind, marked);
     }
 
     private static void fine(String text) {
-        CHECK.due(text, Check.programme(new WornLines(), text), 0);
+        CHECK.fine(text);
     }
 
     private static void tokens() {
