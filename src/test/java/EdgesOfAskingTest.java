@@ -34,6 +34,7 @@ public final class EdgesOfAskingTest {
         betterOfThousand();
         betterAndTheEnd();
         betterOfEqual();
+        betterIsALine();
         sameAsMany();
         sameWrites();
         sameEnds();
@@ -541,6 +542,31 @@ public final class EdgesOfAskingTest {
         }
         due("line 1 ahead of 2", z.better(0), 1);
         due("line 1 ahead of 2", z.better(1), 1000);
+    }
+
+    private static void betterIsALine() {
+        CHECK.sentence("the LINE which, if it were not worn at all now, would let it make the most STEPS HARD "
+                + "from here on");
+        // Worn as it is it would go on for ever, but some line is mended, and there is but this one.
+        WornLines x = Check.told(X + "line x if 2<worn 0 go 0;");
+        for (int round = 0; round < 2; round++) {
+            x.begin(0);
+            due("it ends", x.run(9), 1);
+        }
+        x.begin(0);
+        due("the one line", x.better(0), 0);
+        due("then it ends", x.better(1), 1);
+        due("as it is it goes on", x.run(2000), 2000);
+        WornLines y = Check.told(Check.with("stuff a bears 1 costs 1;stuff b bears 9 costs 1;", 15, "line b write 1;")
+                + "line a go 15;");
+        y.begin(0);
+        y.run(99);
+        due("fallen at 15", y.state(1), 15);
+        due("the last of 16", y.better(0), 15);
+        due("the last of 16", y.better(1), 1);
+        y.begin(0);
+        due("from line 0 on", y.better(0), 15);
+        due("from line 0 on", y.better(1), 16);
     }
 
     private static void sameAsMany() {

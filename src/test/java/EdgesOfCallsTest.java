@@ -46,6 +46,8 @@ public final class EdgesOfCallsTest {
         markOverMark();
         count();
         askingChangesNothing();
+        askedInAnyOrder();
+        manyProgrammes();
         CHECK.end();
     }
 
@@ -750,5 +752,54 @@ public final class EdgesOfCallsTest {
         });
         due("it goes on", x.run(99), 2);
         due("as far as it would", x.state(1), 3);
+    }
+
+    private static int ask(WornLines x, int which) {
+        switch (which) {
+            case 0: return x.steps(2);
+            case 1: return x.falls(3);
+            case 2: return x.most(0, 2);
+            case 3: return x.never();
+            case 4: return x.first(1);
+            case 5: return x.apart();
+            case 6: return x.rounds(1);
+            case 7: return x.lasting(9);
+            case 8: return x.lasts(9, 3, 1);
+            case 9: return x.better(1);
+            case 10: return x.same(0);
+            default: return x.same(1);
+        }
+    }
+
+    private static void askedInAnyOrder() {
+        CHECK.sentence("For all that is asked below a run begins unworn, LAID as it is now");
+        int[] answers = {7, 3, 4, 0, 7, 3, 1, 40, 2, 6, -1, 0};
+        for (int one = 0; one < answers.length; one++) {
+            for (int other = 0; other < answers.length; other++) {
+                WornLines x = Check.told(FOUR.replace("write s", "write 9"));
+                x.mark(1, false);
+                Check.programme(x, FOUR);
+                x.lay(1, 0, 2);
+                x.begin(3);
+                x.run(5);
+                x.mark(0, false);
+                due("asked " + one, ask(x, one), answers[one]);
+                due("asked " + other + " behind " + one, ask(x, other), answers[other]);
+                due("asked " + one + " again", ask(x, one), answers[one]);
+            }
+        }
+    }
+
+    /** Each begins anew: what was read for the others takes none of its room. */
+    private static void manyProgrammes() {
+        CHECK.sentence("The TAPE is read as a PROGRAMME: 0, or its FAULT (all stays then).");
+        WornLines x = new WornLines();
+        String ones = X + Check.with("line x write 1", 30, "+1") + ";";
+        for (int i = 0; i < 40; i++) {
+            due("programme " + i, Check.programme(x, i % 2 == 0 ? ones : ones + ";"), i % 2 == 0 ? 0 : 1 + 16 * 102);
+            x.begin(0);
+            due("run", x.run(9), 1);
+            due("31", Check.wrote(x, 0), 31);
+        }
     }
 }

@@ -131,7 +131,7 @@ public final class PromisesTest {
         String once = X + "line x write 1;line x halt;line x halt;";
         String endless = X + "line x go 0;";
         String nines = X + "line x write 1+2+3+4+5+6+7+8+9+1+2+3+4+5+6+7+8+9+1+2+3+4+5+6+7+8+9;";
-        for (int i = 0; i < 20; i++) {
+        for (int i = 0; i < 8; i++) {
             Check.programme(x, nines);
             x.begin(0);
             x.run(1);
